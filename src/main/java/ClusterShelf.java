@@ -14,6 +14,8 @@ public final class ClusterShelf {
     private static final int JOURNAL_BLOCKS = 24;
     private static final int GROUPS = 8;
     private static final int FIRST_MAP = 128;
+    private static final int GROUP_BLOCKS = 64;
+    private static final int GROUP_INODES = 16;
     private static final int FIRST_DATA = 17;
     private static final int DATA_BLOCKS = 47;
     private static final int INODE_BITS = 0xFFFF;
@@ -32,7 +34,6 @@ public final class ClusterShelf {
     private static final int MOST_WORDS = 384;
     private static final int MOST_ENTRIES = 192;
     private static final int DIRECT_WORDS = 128;
-    private static final int LAST_PLACE = 24;
 
     private static final int SHARED = 1;
     private static final int ALONE = 2;
@@ -111,13 +112,14 @@ public final class ClusterShelf {
         masters = new Masters();
         mail = new Mail();
         book = new Book();
-        trial = new Trial(disk);
+        trial = new Trial(disk, cluster[0]);
         checker = new Checker(disk);
     }
 
     // ---- the schedule
 
-    public int call(int node, int kind, int a, int b, int c, int d) {
+    public int call(int node, int kind, int a, int b, int c, int d)
+            throws IllegalArgumentException, IllegalStateException {
         if (!isNode(node) || !isCall(kind, a, b, c, d)) {
             throw new IllegalArgumentException("no such node, kind or what it has");
         }
@@ -131,14 +133,14 @@ public final class ClusterShelf {
         return x.task.state == UNDER_WAY ? 0 : 1;
     }
 
-    public void delay(int from, int to, int ticks) {
+    public void delay(int from, int to, int ticks) throws IllegalArgumentException {
         if (!isNode(from) || !isNode(to) || ticks < 1 || ticks > MOST_DELAY) {
             throw new IllegalArgumentException("no such node or delay");
         }
         mail.delays[from * MOST_NODES + to] = ticks;
     }
 
-    public int tick(int n) {
+    public int tick(int n) throws IllegalArgumentException {
         if (n < 0 || n > MOST_TICKS) {
             throw new IllegalArgumentException("no such number of ticks");
         }
@@ -161,7 +163,7 @@ public final class ClusterShelf {
         return book.ended - before;
     }
 
-    public void crash(int node, int torn) {
+    public void crash(int node, int torn) throws IllegalArgumentException, IllegalStateException {
         if (!isNode(node) || torn < 0 || torn >= WORDS) {
             throw new IllegalArgumentException("no such node or number of words");
         }
@@ -184,7 +186,7 @@ public final class ClusterShelf {
         }
     }
 
-    public int recover(int node) {
+    public int recover(int node) throws IllegalArgumentException, IllegalStateException {
         if (!isNode(node)) {
             throw new IllegalArgumentException("no such node");
         }
@@ -206,7 +208,7 @@ public final class ClusterShelf {
         return images;
     }
 
-    public void start(int node) {
+    public void start(int node) throws IllegalArgumentException, IllegalStateException {
         if (!isNode(node)) {
             throw new IllegalArgumentException("no such node");
         }
@@ -224,7 +226,7 @@ public final class ClusterShelf {
 
     // ---- results
 
-    public int result(int node, int what) {
+    public int result(int node, int what) throws IllegalArgumentException {
         if (!isNode(node) || what < 0 || what > 4) {
             throw new IllegalArgumentException("no such node or what");
         }
@@ -238,7 +240,7 @@ public final class ClusterShelf {
         }
     }
 
-    public int history(int i, int what) {
+    public int history(int i, int what) throws IndexOutOfBoundsException, IllegalArgumentException {
         if (i < 0 || i >= book.kept()) {
             throw new IndexOutOfBoundsException("no such call");
         }
@@ -250,14 +252,15 @@ public final class ClusterShelf {
 
     // ---- what is seen
 
-    public int word(int block, int i) {
+    public int word(int block, int i) throws IndexOutOfBoundsException {
         if (!isWord(block, i)) {
             throw new IndexOutOfBoundsException("no such word");
         }
         return disk[block * WORDS + i];
     }
 
-    public int cached(int node, int block, int i) {
+    public int cached(int node, int block, int i)
+            throws IllegalArgumentException, IndexOutOfBoundsException, NoSuchElementException {
         if (!isNode(node)) {
             throw new IllegalArgumentException("no such node");
         }
@@ -271,7 +274,7 @@ public final class ClusterShelf {
         return cache.words[block * WORDS + i];
     }
 
-    public int lock(int node, int resource, int what) {
+    public int lock(int node, int resource, int what) throws IllegalArgumentException {
         if (!isNode(node) || !isResource(resource) || what < 0 || what > 4) {
             throw new IllegalArgumentException("no such node, resource or what");
         }
@@ -285,7 +288,7 @@ public final class ClusterShelf {
         }
     }
 
-    public int row(int resource, int what) {
+    public int row(int resource, int what) throws IllegalArgumentException {
         if (!isResource(resource) || what < 0) {
             throw new IllegalArgumentException("no such resource or what");
         }
@@ -304,7 +307,7 @@ public final class ClusterShelf {
         return what % 2 == 0 ? masters.rowNode[at] : masters.rowMode[at];
     }
 
-    public int message(int i, int what) {
+    public int message(int i, int what) throws IndexOutOfBoundsException, IllegalArgumentException {
         if (i < 0 || i >= mail.count) {
             throw new IndexOutOfBoundsException("no such message");
         }
@@ -314,7 +317,7 @@ public final class ClusterShelf {
         return mail.slots[i * Mail.COLUMNS + what];
     }
 
-    public int node(int node, int what) {
+    public int node(int node, int what) throws IllegalArgumentException {
         if (!isNode(node) || what < 0 || what > 6) {
             throw new IllegalArgumentException("no such node or what");
         }
@@ -330,7 +333,7 @@ public final class ClusterShelf {
         }
     }
 
-    public int about(int what) {
+    public int about(int what) throws IllegalArgumentException {
         switch (what) {
             case 0: return time;
             case 1: return mail.count;
@@ -369,7 +372,7 @@ public final class ClusterShelf {
     }
 
     private static boolean isData(int block) {
-        return block >= FIRST_MAP && block < BLOCKS && (block - FIRST_MAP) % 64 >= FIRST_DATA;
+        return block >= FIRST_MAP && block < BLOCKS && (block - FIRST_MAP) % GROUP_BLOCKS >= FIRST_DATA;
     }
 
     private static boolean isCall(int kind, int a, int b, int c, int d) {
@@ -389,11 +392,11 @@ public final class ClusterShelf {
     }
 
     private static int inodeBlock(int k) {
-        return FIRST_MAP + 1 + 64 * (k / 16) + k % 16;
+        return mapBlock(k / GROUP_INODES) + 1 + k % GROUP_INODES;
     }
 
     private static int mapBlock(int group) {
-        return FIRST_MAP + 64 * group;
+        return FIRST_MAP + GROUP_BLOCKS * group;
     }
 
     private static int mapResource(int group) {
@@ -401,11 +404,11 @@ public final class ClusterShelf {
     }
 
     private static int groupOf(int block) {
-        return (block - FIRST_MAP) / 64;
+        return (block - FIRST_MAP) / GROUP_BLOCKS;
     }
 
     private static int dataNumber(int block) {
-        return (block - FIRST_MAP) % 64 - FIRST_DATA;
+        return (block - FIRST_MAP) % GROUP_BLOCKS - FIRST_DATA;
     }
 
     private static int headBlock(int node) {
@@ -800,9 +803,11 @@ public final class ClusterShelf {
         final int head;
         final int[] log = new int[LOG_BLOCKS];
         int logged;
+        /** The blocks of the flush, and their words as they were when it began; their count is 0 if there is none. */
         final int[] blocks = new int[LOG_BLOCKS];
         final int[] words = new int[LOG_BLOCKS * WORDS];
         int count;
+        /** The number of the flush's next write. */
         int next;
         int begun;
         /** How many calls had ended when the flush began. */
@@ -1220,8 +1225,9 @@ public final class ClusterShelf {
         int putInode;
         int unlinked;
 
-        Trial(int[] disk) {
+        Trial(int[] disk, Node first) {
             this.disk = disk;
+            node = first;
         }
 
         void run(Node x) {
@@ -1413,7 +1419,7 @@ public final class ClusterShelf {
             if (at >= DIRECT_WORDS) {
                 int index = read(home, INDEX);
                 if (index == 0) {
-                    index = takeBlock(k / 16);
+                    index = takeBlock(k / GROUP_INODES);
                     if (index == 0) {
                         return 0;
                     }
@@ -1424,7 +1430,7 @@ public final class ClusterShelf {
             }
             int block = read(home, place);
             if (block == 0) {
-                block = takeBlock(k / 16);
+                block = takeBlock(k / GROUP_INODES);
                 if (block != 0) {
                     set(home, place, block);
                 }
@@ -1467,7 +1473,7 @@ public final class ClusterShelf {
                 if (free != 0) {
                     int bit = Integer.numberOfTrailingZeros(free);
                     set(mapBlock(g), 0, used | 1 << bit);
-                    return 16 * g + bit;
+                    return GROUP_INODES * g + bit;
                 }
             }
             fail(NO_ROOM);
@@ -1515,9 +1521,9 @@ public final class ClusterShelf {
             if (index != 0 && !(givePlacesBack(index, 0, WORDS) && giveBack(index))) {
                 return;
             }
-            int g = k / 16;
+            int g = k / GROUP_INODES;
             if (meet(mapResource(g), ALONE)) {
-                set(mapBlock(g), 0, read(mapBlock(g), 0) & ~(1 << k % 16));
+                set(mapBlock(g), 0, read(mapBlock(g), 0) & ~(1 << k % GROUP_INODES));
                 clear(home);
             }
         }
@@ -1630,7 +1636,7 @@ public final class ClusterShelf {
                 fail(THERE_IS_ONE);
                 return;
             }
-            int k = takeInode(t.a / 16);
+            int k = takeInode(t.a / GROUP_INODES);
             if (!isInode(k) || !meet(k, ALONE)) {
                 return;
             }
@@ -1763,7 +1769,7 @@ public final class ClusterShelf {
             }
             int index = read(home, INDEX);
             if (index != 0) {
-                if (!givePlacesBack(index, Math.max(first, DIRECT) - DIRECT, LAST_PLACE - DIRECT)) {
+                if (!givePlacesBack(index, Math.max(first - DIRECT, 0), WORDS)) {
                     return;
                 }
                 if (size <= DIRECT_WORDS) {
@@ -1982,7 +1988,7 @@ public final class ClusterShelf {
                 if (kindOf(k) == 0) {
                     continue;
                 }
-                bits[k / 16 * 3] |= 1 << k % 16;
+                bits[k / GROUP_INODES * 3] |= 1 << k % GROUP_INODES;
                 int home = inodeBlock(k);
                 int index = at(home, INDEX);
                 if (!ownPlaces(home, PLACES, INDEX + 1) || index != 0 && !ownPlaces(index, 0, WORDS)) {
@@ -2014,8 +2020,8 @@ public final class ClusterShelf {
 
         private boolean hasWrongMap() {
             for (int g = 0; g < GROUPS; g++) {
-                for (int i = 0; i < 3; i++) {
-                    if (at(mapBlock(g), i) != bits[g * 3 + i]) {
+                for (int i = 0; i < WORDS; i++) {
+                    if (at(mapBlock(g), i) != (i < 3 ? bits[g * 3 + i] : 0)) {
                         return true;
                     }
                 }

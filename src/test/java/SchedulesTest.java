@@ -7,7 +7,7 @@ import java.util.function.IntSupplier;
  * must be alike, and looking at the whole must find nothing wrong.
  */
 public final class SchedulesTest {
-    static final int SCHEDULES = 480;
+    static final int SCHEDULES = 300;
     static final int STEPS = 260;
     static int wrong = 0;
     static String where = "";
