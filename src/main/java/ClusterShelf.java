@@ -1289,15 +1289,16 @@ public final class ClusterShelf {
             forget();
         }
 
+        /** What was given back leaves first: the log may have no place for the rest ahead of that. */
         void settle() {
+            for (int i = 0; i < givens; i++) {
+                node.journal.remove(given[i]);
+                node.cache.drop(given[i]);
+            }
             for (int i = 0; i < changes; i++) {
                 if (!isGiven(changed[i])) {
                     node.journal.add(changed[i]);
                 }
-            }
-            for (int i = 0; i < givens; i++) {
-                node.journal.remove(given[i]);
-                node.cache.drop(given[i]);
             }
             forget();
         }

@@ -285,6 +285,27 @@ public final class CallsTest {
         Due.is("its size", y.cached(0, 130, 2), 177);
     }
 
+    /** What is given back needs no place in the log. */
+    static void givenBack() {
+        ClusterShelf x = new ClusterShelf(2);
+        Due.done(x, 1, 0, MAKE, 0, 5, 1);
+        Due.done(x, 0, 0, SYNC);
+        for (int i = 0; i < 13; i++) {
+            Due.done(x, i, 0, WRITE, 1, 16 * i, i);
+        }
+        Due.is("a map, an inode, its index and 13 blocks", x.node(0, 2), 16);
+        Due.is("the root's block is one more, but 14 go", x.call(0, REMOVE, 0, 5, 0, 0), 1);
+        Due.is("the map, the inode and the root's block", x.node(0, 2), 3);
+        Due.is("and the root are in the cache", x.node(0, 5), 4);
+        Due.is("one flush", x.node(0, 4), 1);
+        Due.is("it isn't safe", x.history(x.about(4) - 1, 9), 1);
+        Due.done(x, 0, 0, SYNC);
+        Due.is("three blocks, nine writes", x.result(0, 2), 9);
+        Due.is("what was written is safe", x.history(2, 9), 2);
+        Due.is("no block but the root's is used", x.word(128, 1), 1);
+        Due.is("looking", x.about(9), 0);
+    }
+
     /** What is put where: blocks and inodes of the own group first, then of the next ones. */
     static void groups() {
         ClusterShelf x = new ClusterShelf(2);
@@ -318,6 +339,7 @@ public final class CallsTest {
         refused();
         tries();
         fullLogs();
+        givenBack();
         groups();
         Due.end("calls");
     }

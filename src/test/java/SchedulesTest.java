@@ -1,4 +1,6 @@
+import java.util.ArrayList;
 import java.util.Arrays;
+import java.util.List;
 import java.util.Random;
 import java.util.function.IntSupplier;
 
@@ -120,6 +122,7 @@ public final class SchedulesTest {
         {1, 1, 1, 1, 3, 3, 3, 2, 4, 4, 8, 13, 0},
         {1, 6, 6, 6, 5, 5, 5, 11, 11, 7, 10},
         {1, 2, 1, 2, 3, 2, 4, 6, 7, 10},
+        {6, 6, 6, 6, 6, 6, 6, 6, 12, 7, 2, 1},
     };
 
     final Random random;
@@ -129,6 +132,8 @@ public final class SchedulesTest {
     final int names;
     final int inodes;
     final boolean stormy;
+    /** Most calls are of node 0, so that its log gets full ahead of any call back. */
+    final boolean lonely;
 
     SchedulesTest(int seed) {
         random = new Random(seed);
@@ -139,35 +144,48 @@ public final class SchedulesTest {
         names = random.nextBoolean() ? 5 : 300;
         inodes = random.nextInt(3) == 0 ? 128 : 3 + random.nextInt(12);
         stormy = random.nextInt(3) != 0;
+        lonely = random.nextInt(3) == 0;
     }
 
     int any(int below) {
         return random.nextInt(below);
     }
 
-    /** Mostly an inode that was made of this kind, so that calls have something to work on. */
+    /** A block as some node or the disk has it: near enough to choose what calls are about. */
+    int[] seen(int block) {
+        for (PlainShelf.Member m : p.members) {
+            if (m.cache.containsKey(block)) {
+                return m.cache.get(block);
+            }
+        }
+        return p.disk[block];
+    }
+
+    /** Mostly an inode of this kind, so that calls have something to work on. */
     int inode(int kind) {
         if (any(12) == 0) {
             return any(8) == 0 ? any(260) - 100 : any(inodes);
         }
-        if (kind == 2 && any(3) == 0) {
-            return 0;
-        }
-        for (int i = 0; i < 12 && !p.entries.isEmpty(); i++) {
-            PlainShelf.Entry e = p.entries.get(any(p.entries.size()));
-            if (e.kind == 1 && e.state == 2 && e.args[2] == kind) {
-                return e.value;
+        List<Integer> found = new ArrayList<>();
+        for (int k = 0; k < 128; k++) {
+            if (seen(PlainShelf.at(k))[0] == kind) {
+                found.add(k);
             }
         }
-        return kind == 2 ? 0 : any(inodes);
+        return found.isEmpty() ? any(inodes) : found.get(any(Math.min(inodes, found.size())));
     }
 
-    /** For calls that look for a name, mostly one that was put into this directory. */
+    /** For calls that look for a name, mostly one that is in this directory. */
     int name(int d, boolean known) {
-        for (int i = 0; known && i < 12 && !p.entries.isEmpty(); i++) {
-            PlainShelf.Entry e = p.entries.get(any(p.entries.size()));
-            if ((e.kind == 1 || e.kind == 3) && e.state == 2 && e.args[0] == d) {
-                return e.args[1];
+        if (known && d >= 0 && d < 128 && any(6) != 0) {
+            int[] inode = seen(PlainShelf.at(d));
+            int size = inode[0] == 2 ? Math.min(128, inode[2]) : 0;
+            for (int i = 0; i < 6 && size > 0; i++) {
+                int w = any(size / 2) * 2;
+                int name = inode[3 + w / 16] == 0 ? 0 : seen(inode[3 + w / 16])[w % 16];
+                if (name != 0) {
+                    return name;
+                }
             }
         }
         return any(80) == 0 ? 0 : any(names) - names / 3;
@@ -178,8 +196,9 @@ public final class SchedulesTest {
     }
 
     void begin() {
-        int node = any(50) == 0 ? any(9) - 2 : any(p.n);
-        int kind = any(80) == 0 ? any(20) - 2 : likes[any(likes.length)];
+        int node = any(50) == 0 ? any(9) - 2 : lonely && any(12) != 0 ? 0 : any(p.n);
+        int liked = any(80) == 0 ? any(20) - 2 : likes[any(likes.length)];
+        int kind = liked > 4 && any(15) != 0 && p.about(8) + p.members[0].cache.size() < 4 ? 1 : liked;
         int a = inode(kind <= 4 || kind == 8 || kind == 13 || kind == 9 && any(2) == 0 ? 2 : 1);
         int b = kind <= 4 ? name(a, kind == 0 || kind == 2 || kind == 4)
                 : kind == 8 ? any(12) : kind == 9 ? any(5) : kind == 12 ? any(99) : place();
