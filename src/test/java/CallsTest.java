@@ -306,6 +306,25 @@ public final class CallsTest {
         Due.is("looking", x.about(9), 0);
     }
 
+    /** Just 16 blocks, when the one that is given back isn't counted. */
+    static void givenBackAtTheEdge() {
+        ClusterShelf x = new ClusterShelf(2);
+        Due.done(x, 1, 0, MAKE, 0, 5, 1);
+        Due.done(x, 2, 0, MAKE, 0, 6, 1);
+        Due.done(x, 0, 0, SYNC);
+        Due.done(x, 9, 0, WRITE, 1, 0, 9);
+        for (int i = 0; i < 11; i++) {
+            Due.done(x, i, 0, WRITE, 2, 16 * i, i);
+        }
+        Due.is("the map, two inodes, an index, 12 blocks", x.node(0, 2), 16);
+        Due.is("the root's block for the file's", x.call(0, REMOVE, 0, 5, 0, 0), 1);
+        Due.is("still 16", x.node(0, 2), 16);
+        Due.is("a new file in its place", x.call(0, MAKE, 0, 7, 1, 0), 1);
+        Due.is("its inode, the map and the root's block were in the log", x.node(0, 2), 16);
+        Due.is("a block more must wait", x.call(0, WRITE, 1, 0, 8, 0), 0);
+        Due.is("a flush is under way", x.node(0, 3), 35);
+    }
+
     /** What is put where: blocks and inodes of the own group first, then of the next ones. */
     static void groups() {
         ClusterShelf x = new ClusterShelf(2);
@@ -340,6 +359,7 @@ public final class CallsTest {
         tries();
         fullLogs();
         givenBack();
+        givenBackAtTheEdge();
         groups();
         Due.end("calls");
     }

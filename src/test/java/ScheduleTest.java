@@ -294,6 +294,31 @@ public final class ScheduleTest {
         Due.is("looking", x.about(9), 0);
     }
 
+    /** A start lays the locks anew, too: calls of all nodes that are up go on. */
+    static void laidAnewByStart() {
+        for (int n = 0; n < 2; n++) {
+            ClusterShelf x = new ClusterShelf(3);
+            int node = n;
+            int other = 1 - n;
+            x.crash(2, 0);
+            x.recover(2);
+            Due.done(x, 1, node, MAKE, 0, 5, 1);
+            x.call(other, LOOK, 0, 5, 0, 0);
+            x.tick(2);
+            Due.is("it is called back", x.lock(node, 0, 2), 1);
+            Due.is("a call must wait", x.call(node, MAKE, 0, 6, 1, 0), 0);
+            Due.is("it asks for nothing", x.lock(node, 2, 1), 0);
+            x.start(2);
+            Due.is("called back no more", x.lock(node, 0, 2), NONE);
+            Due.is("the call goes on and asks for an inode", x.lock(node, 2, 1), 2);
+            Due.is("of its new master", x.message(1, 1), 2);
+            x.tick(60);
+            Due.is("it made one", x.result(node, 1), 2);
+            Due.is("the other one's call ended", x.result(other, 1), 1);
+            Due.is("looking", x.about(9), 0);
+        }
+    }
+
     /** Shared and alone: who is called back to what, and what leaves the cache. */
     static void callsBack() {
         ClusterShelf x = new ClusterShelf(3);
@@ -336,6 +361,7 @@ public final class ScheduleTest {
         crashes();
         recoveries();
         laidAnew();
+        laidAnewByStart();
         callsBack();
         Due.end("schedule");
     }
