@@ -45,7 +45,9 @@ public final class LookTest {
         wrong(1, 145, 1, 3, 132, 1, 1);
         wrong(0, 145, 9, 3);
         wrong(3, 145, 2, 0);
+        wrong(3, 145, 0, 0, 146, 0, 0);
         wrong(2, 146, 1, 2);
+        wrong(2, 130, 0, 2, 130, 2, 0);
         wrong(2, 145, 1, 0);
         wrong(2, 146, 1, 0);
         wrong(3, 132, 0, 1);
@@ -76,6 +78,8 @@ public final class LookTest {
         // as it would be if all recovered: node 1's journal has the image of the root's block
         wrong(4, 25, 1, 1, 25, 2, 1, 26, 0, 145, 27, 0, 5, 27, 1, 1, 27, 2, 6, 27, 3, 2, 27, 4, 8, 27, 5, 1, 129, 2, 6);
         wrong(3, 25, 1, 1, 25, 2, 1, 26, 0, 145);
+        wrong(3, 25, 1, 16, 25, 2, 1, 26, 15, 145);
+        wrong(0, 25, 1, 15, 25, 2, 1, 26, 15, 145);
         wrong(0, 25, 1, 1, 25, 2, 0, 26, 0, 145);
         wrong(0, 25, 1, 0, 25, 2, 1, 26, 0, 145);
     }
