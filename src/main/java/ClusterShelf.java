@@ -1730,9 +1730,9 @@ public final class ClusterShelf {
             finish(block == 0 ? 0 : read(block, t.b % WORDS));
         }
 
-        /** WRITE, ADD and APPEND. */
+        /** WRITE, ADD and APPEND, which meets its full size ahead of the inode's kind. */
         private void writeWord(Task t) {
-            if (!meetFile(t.a, ALONE)) {
+            if (!meet(t.a, ALONE)) {
                 return;
             }
             boolean appends = t.kind == APPEND;
@@ -1740,6 +1740,9 @@ public final class ClusterShelf {
             int at = appends ? size : t.b;
             if (at >= MOST_WORDS) {
                 fail(NO_ROOM);
+                return;
+            }
+            if (!meetFile(t.a, ALONE)) {
                 return;
             }
             int block = reach(t.a, at);

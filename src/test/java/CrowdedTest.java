@@ -41,6 +41,8 @@ public final class CrowdedTest {
         Due.is("no room for a link", t.run(0, LINK, 2, 5, 1, 0), -7);
         Due.is("no room for a file", t.run(1, MAKE, 2, 5, 1, 0), -7);
         Due.is("nor from another directory", t.run(0, RENAME, 0, 1, 2, 5), -7);
+        Due.is("nor to append, ahead of no file", t.run(1, APPEND, 2, 5, 0, 0), -7);
+        Due.is("below the full size it is no file", t.run(0, APPEND, 0, 5, 0, 0), -4);
         t.compare();
         Due.is("its own entry is free", t.run(1, RENAME, 2, 1191, 2, 5), 0);
         Due.is("its size", t.run(0, STAT, 2, 2, 0, 0), 384);

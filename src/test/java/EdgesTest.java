@@ -263,6 +263,47 @@ public final class EdgesTest {
         Due.is("blocks that are used", x.about(7), 26);
     }
 
+    /** APPEND meets -7 (the size is 384) ahead of what WRITE meets, -4: also of a directory, whose size never shrinks. */
+    static void appendToADirectory() {
+        ClusterShelf x = new ClusterShelf(2);
+        go(x, 0, MAKE, 0, 5, 1);
+        go(x, 0, MAKE, 0, 6, 2);
+        Due.fault(x, -4, 0, APPEND, 0, 7);
+        Due.fault(x, -4, 0, APPEND, 2, 7);
+        Due.fault(x, -4, 0, APPEND, 3, 7);
+        for (int i = 0; i < 191; i++) {
+            go(x, 0, LINK, 2, 100 + i, 1);
+        }
+        Due.done(x, 382, 0, STAT, 2, 2);
+        Due.fault(x, -4, 0, APPEND, 2, 7);
+        go(x, 0, LINK, 2, 291, 1);
+        Due.done(x, FULL, 0, STAT, 2, 2);
+        Due.fault(x, -7, 0, APPEND, 2, 7);
+        Due.fault(x, -7, 0, APPEND, 2, 0);
+        Due.is("a fault", x.history(x.about(4) - 1, 6), 3);
+        Due.is("that is this one", x.history(x.about(4) - 1, 7), -7);
+        Due.is("a fault changes nothing", x.history(x.about(4) - 1, 9), 0);
+        Due.fault(x, -4, 0, WRITE, 2, 383, 7);
+        Due.fault(x, -4, 0, ADD, 2, 383, 7);
+        Due.fault(x, -4, 0, READ, 2, 383);
+        Due.fault(x, -4, 0, CUT, 2, FULL);
+        Due.done(x, 0, 0, REMOVE, 2, 291);
+        Due.done(x, 0, 0, REMOVE, 2, 100);
+        Due.done(x, 190, 0, COUNT, 2);
+        Due.fault(x, -7, 0, APPEND, 2, 7);
+        Due.fault(x, -4, 0, APPEND, 0, 7);
+        Due.fault(x, -4, 0, APPEND, 3, 7);
+        Due.fault(x, -7, 1, APPEND, 2, 7);
+        Due.is("the directory alone is met", x.result(1, 4), 1);
+        Due.is("as WRITE meets it", x.lock(1, 2, 0), 2);
+        Due.is("and its inode alone is read", x.node(1, 5), 1);
+        Due.is("two tries", x.result(1, 3), 2);
+        Due.done(x, FULL, 1, STAT, 2, 2);
+        Due.done(x, 190, 0, COUNT, 2);
+        go(x, 0, SYNC);
+        Due.is("looking", x.about(9), 0);
+    }
+
     /** The index of a directory comes with its 65th entry. */
     static void anIndexOfADirectory() {
         ClusterShelf x = new ClusterShelf(2);
@@ -758,6 +799,7 @@ public final class EdgesTest {
         behindTheLastGroup();
         anEmptyDirectory();
         aFullDirectory();
+        appendToADirectory();
         anIndexOfADirectory();
         aFileOfSize0();
         aFileOf384Words();

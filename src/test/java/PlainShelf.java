@@ -780,9 +780,10 @@ final class PlainShelf {
                     return store(a, b, dataWord(a, b) + c);
                 }
                 case 12: {
-                    file(a, 2);
+                    need(a, 2);
                     int size = get(at(a), 2);
-                    check(size < 384, -7);
+                    check(size != 384, -7);
+                    file(a, 2);
                     store(a, size, b);
                     return size;
                 }
